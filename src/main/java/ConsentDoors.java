@@ -132,7 +132,7 @@ public final class ConsentDoors {
         if (!held.hasCell(cell) || !isSide(side) || !held.hasHour(hour)) {
             return NO_SUCH;
         }
-        return held.liking(cell, side, hour);
+        return held.neighbour(cell, side) == NONE ? 0 : held.liking(2 * cell + side, hour);
     }
 
     // What men would do and what doors could do, nobody being out.
@@ -420,22 +420,18 @@ public final class ConsentDoors {
         if (!held.stands() || n < 0 || n > MAX_CELLS || what < 0 || what > 1) {
             return NO_SUCH;
         }
-        int mended = leastMending(n);
-        if (mended == NONE) {
+        draft.copy(held);
+        if (mostIfMended(held.quarrels) < n) {
             return NONE;
         }
+        int mended = leastMending(n, neededMends(n));
         return what == 0 ? Integer.bitCount(mended) : mended;
     }
 
-    private int leastMending(int n) {
+    private int leastMending(int n, int needed) {
         int all = held.quarrels;
-        draft.copy(held);
-        if (mostIfMended(all) < n) {
-            return NONE;
-        }
-        int needed = neededMends(n);
         int least = all;
-        for (int mended = 0; mended < all; mended++) {
+        for (int mended = needed; mended < all; mended++) {
             boolean smaller = Integer.bitCount(mended) < Integer.bitCount(least);
             boolean possible = (mended & ~all) == 0 && (needed & ~mended) == 0;
             if (smaller && possible && mostIfMended(mended) >= n) {
@@ -460,7 +456,8 @@ public final class ConsentDoors {
 
     private int mostIfMended(int mended) {
         draft.quarrels = held.quarrels & ~mended;
-        return mostOfDraft();
+        trial.explore(draft);
+        return trial.atLast().largestWith(0);
     }
 
     private int mostOfDraft() {
@@ -1017,7 +1014,7 @@ public final class ConsentDoors {
 
         int neighbour(int cell, int side) {
             int next = side == LEFT ? cell - 1 : cell + 1;
-            if (hasCell(next)) {
+            if (next >= 0 && next < cells) {
                 return next;
             }
             if (!ring) {
@@ -1065,11 +1062,7 @@ public final class ConsentDoors {
             soups++;
         }
 
-        int liking(int cell, int side, int hour) {
-            if (neighbour(cell, side) == NONE) {
-                return 0;
-            }
-            int bond = 2 * cell + side;
+        int liking(int bond, int hour) {
             int points = told[bond];
             for (int i = 0; i < soups; i++) {
                 if (soupBond[i] == bond && soupHour[i] <= hour) {
@@ -1100,7 +1093,7 @@ public final class ConsentDoors {
             if (!isHisHour(cell, side, hour)) {
                 return NOT_HIS_HOUR;
             }
-            return liking(cell, side, hour) < temper[cell] ? LIKES_TOO_LITTLE : 0;
+            return liking(2 * cell + side, hour) < temper[cell] ? LIKES_TOO_LITTLE : 0;
         }
 
         private boolean isHisHour(int cell, int side, int hour) {
@@ -1123,7 +1116,7 @@ public final class ConsentDoors {
                 int because = refusal(cell, side, hour, 0);
                 if (because == LIKES_TOO_LITTLE) {
                     int man = neighbour(cell, side);
-                    sum += perMan ? 1 : temper[man] - liking(man, 1 - side, hour);
+                    sum += perMan ? 1 : temper[man] - liking(2 * man + 1 - side, hour);
                 } else if (because > WALL) {
                     return NONE;
                 }
@@ -1157,6 +1150,9 @@ public final class ConsentDoors {
         private static final int NUMBER = 2;
         private static final int SIGN = 3;
         private static final int STRAY = 4;
+
+        private static final int BLANK = 32;
+        private static final int NEW_LINE = 10;
 
         private static final int MISPLACED = 1;
         private static final int OUT_OF_BOUNDS = 2;
@@ -1267,7 +1263,7 @@ public final class ConsentDoors {
             if (known && (into.neighbour(value, RIGHT) == NONE || bit(into.quarrels, value) == 1)) {
                 fail(OUT_OF_BOUNDS);
             }
-            int cell = takeCell();
+            int cell = takeNumber(0, into.cells - 1);
             takeSign();
             if (fault == 0) {
                 into.quarrels |= 1 << cell;
@@ -1279,7 +1275,7 @@ public final class ConsentDoors {
                 fail(TOO_MANY);
             }
             takeWord("sleeps");
-            int cell = takeCell();
+            int cell = takeNumber(0, into.cells - 1);
             takeWord("from");
             int from = takeNumber(0, into.hours - 1);
             takeWord("to");
@@ -1295,7 +1291,7 @@ public final class ConsentDoors {
                 fail(TOO_MANY);
             }
             takeWord("soup");
-            int cell = takeCell();
+            int cell = takeNumber(0, into.cells - 1);
             takeWord("gives");
             int side = isWord("left") ? LEFT : RIGHT;
             boolean named = isWord("left") || isWord("right");
@@ -1315,7 +1311,7 @@ public final class ConsentDoors {
         private void readPlan() {
             takeWord("plan");
             int hour = takeNumber(0, into.hours - 1);
-            int cell = takeCell();
+            int cell = takeNumber(0, into.cells - 1);
             takeSign();
             if (fault == 0) {
                 into.plan[hour] = cell;
@@ -1354,10 +1350,6 @@ public final class ConsentDoors {
             advance();
         }
 
-        private int takeCell() {
-            return takeNumber(0, into.cells - 1);
-        }
-
         private int takeNumber(int least, int most) {
             int taken = value;
             if (sort != NUMBER) {
@@ -1393,40 +1385,23 @@ public final class ConsentDoors {
             if (fault != 0) {
                 return;
             }
-            while (next < tape.length && isBlank(tape.bytes[next])) {
+            while (next < tape.length && (tape.bytes[next] == BLANK || tape.bytes[next] == NEW_LINE)) {
                 next++;
             }
             at = next;
+            value = 0;
             if (at >= tape.length) {
                 sort = END;
                 return;
             }
             sort = sortOf(tape.bytes[at]);
-            value = 0;
-            next++;
-            if (sort == WORD) {
-                passWord();
-            } else if (sort == NUMBER) {
-                passNumber();
-            }
-        }
-
-        private void passWord() {
-            while (next < tape.length && sortOf(tape.bytes[next]) == WORD) {
+            boolean longer = sort == WORD || sort == NUMBER;
+            do {
+                if (sort == NUMBER) {
+                    value = Math.min(HUGE, 10 * value + tape.bytes[next] - '0');
+                }
                 next++;
-            }
-        }
-
-        private void passNumber() {
-            value = tape.bytes[at] - '0';
-            while (next < tape.length && sortOf(tape.bytes[next]) == NUMBER) {
-                value = Math.min(HUGE, 10 * value + tape.bytes[next] - '0');
-                next++;
-            }
-        }
-
-        private static boolean isBlank(int sign) {
-            return sign == 32 || sign == 10;
+            } while (longer && next < tape.length && sortOf(tape.bytes[next]) == sort);
         }
 
         private static int sortOf(int sign) {
@@ -1459,23 +1434,17 @@ public final class ConsentDoors {
         void read(Prison from) {
             cells = from.cells;
             hours = from.hours;
-            for (int cell = 0; cell < cells; cell++) {
-                turnHours[2 * cell + LEFT] = hoursOf(from, cell, LEFT);
-                turnHours[2 * cell + RIGHT] = hoursOf(from, cell, RIGHT);
+            for (int bond = 0; bond < 2 * cells; bond++) {
+                turnHours[bond] = 0;
+                for (int hour = 0; hour < hours; hour++) {
+                    if (from.whyNot(bond / 2, bond % 2, hour, 0) == 0) {
+                        turnHours[bond] |= 1 << hour;
+                    }
+                }
             }
             for (int cell = 0; cell < cells; cell++) {
                 readDoor(from, cell);
             }
-        }
-
-        private static int hoursOf(Prison from, int cell, int side) {
-            int bits = 0;
-            for (int hour = 0; hour < from.hours; hour++) {
-                if (from.whyNot(cell, side, hour, 0) == 0) {
-                    bits |= 1 << hour;
-                }
-            }
-            return bits;
         }
 
         private void readDoor(Prison from, int cell) {
@@ -1502,7 +1471,7 @@ public final class ConsentDoors {
         static long lackingAll(int these) {
             long all = -1L;
             for (int j = 0; j < LACKING.length; j++) {
-                if (bit(these, j) == 1) {
+                if ((these >> j & 1) == 1) {
                     all &= LACKING[j];
                 }
             }
@@ -1513,7 +1482,7 @@ public final class ConsentDoors {
         static long havingAll(int these) {
             long all = -1L;
             for (int j = 0; j < LACKING.length; j++) {
-                if (bit(these, j) == 1) {
+                if ((these >> j & 1) == 1) {
                     all &= ~LACKING[j];
                 }
             }
