@@ -41,10 +41,9 @@ public final class ConsentDoors {
     private static final int NOT_HIS_HOUR = 6;
     private static final int LIKES_TOO_LITTLE = 7;
 
-    private final Tape tape = new Tape();
+    private final Reader reader = new Reader();
     private final Prison held = new Prison();
     private final Prison draft = new Prison();
-    private final Reader reader = new Reader(tape, draft);
     private final Outlook outlook = new Outlook();
     private final Outlook trial = new Outlook();
     private final Course course = new Course();
@@ -67,6 +66,7 @@ public final class ConsentDoors {
     // The TAPE and the PRISON that it tells.
 
     public int feed(int a, int b, int c, int d, int e) {
+        Tape tape = reader.tape;
         if (tape.length + 20 > MAX_TAPE) {
             return NONE;
         }
@@ -79,20 +79,20 @@ public final class ConsentDoors {
     }
 
     public int end(int n) {
-        if (n < 0 || n > tape.length) {
+        if (n < 0 || n > reader.tape.length) {
             return NONE;
         }
-        tape.length = n;
+        reader.tape.length = n;
         return n;
     }
 
     public int prison() {
         boolean sound = reader.readTape();
-        tape.length = 0;
+        reader.tape.length = 0;
         if (!sound) {
             return FAULTY;
         }
-        held.copy(draft);
+        held.copy(reader.into);
         settle();
         return held.lines;
     }
@@ -820,7 +820,7 @@ public final class ConsentDoors {
             case 3: return held.sleeps;
             case 4: return held.soups;
             case 5: return held.lines;
-            case 6: return tape.length;
+            case 6: return reader.tape.length;
             case 7: return held.ring ? 1 : 0;
             case 8: return held.doorsTried();
             case 9: return rowsHeld();
@@ -1143,7 +1143,7 @@ public final class ConsentDoors {
         }
     }
 
-    /** Reads a TAPE as a PRISON. Behind the first FAULT nothing more is taken. */
+    /** Reads the TAPE as a PRISON. Behind the first FAULT nothing more is taken. */
     private static final class Reader {
         private static final int END = 0;
         private static final int WORD = 1;
@@ -1161,8 +1161,8 @@ public final class ConsentDoors {
         // Above every bound, so that a number of many digits stays out of them all.
         private static final int HUGE = 1000;
 
-        private final Tape tape;
-        private final Prison into;
+        final Tape tape = new Tape();
+        final Prison into = new Prison();
         private int at;
         private int next;
         private int sort;
@@ -1170,11 +1170,6 @@ public final class ConsentDoors {
         private int cellsTold;
         int fault;
         int place = NONE;
-
-        Reader(Tape tape, Prison into) {
-            this.tape = tape;
-            this.into = into;
-        }
 
         /** Whether the TAPE tells a PRISON. */
         boolean readTape() {
@@ -1647,7 +1642,7 @@ public final class ConsentDoors {
                     goal.add(set);
                 }
             }
-            for (int hour = keys.hours - 1; hour >= 0; hour--) {
+            for (int hour = keys.hours - 1; hour > 0; hour--) {
                 winning[hour].copy(winning[hour + 1]);
                 for (int cell = 0; cell < keys.cells; cell++) {
                     if (bit(keys.openHours[cell], hour) == 1) {

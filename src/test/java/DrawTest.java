@@ -79,6 +79,9 @@ public final class DrawTest {
             }
             Check.due("chance(100, 17, 40, " + cell + ")", x.chance(100, 17, 40, cell), due);
         }
+        ConsentDoors day = Check.told("prison cells 2 hours 24 row; plan 23 1;");
+        Check.due("in the end of 24 HOURS: drawn(3, 0, 0)", day.drawn(3, 0, 0), 2);
+        Check.due("in the end of 24 HOURS: chance(3, 2, 0, 1)", day.chance(3, 2, 0, 1), 2);
         Check.due("chance(3, 20, 0, 0)", x.chance(3, 20, 0, 0), 20);
         Check.due("chance(3, 1, 0, 2)", x.chance(3, 1, 0, 2), 1);
         Check.due("chance(3, 20, 100, 0)", x.chance(3, 20, 100, 0), 0);

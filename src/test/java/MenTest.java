@@ -60,6 +60,11 @@ public final class MenTest {
         Check.due("likes(0, 1, 3)", x.likes(0, 1, 3), 12);
         Check.due("likes(2, 0, 0)", x.likes(2, 0, 0), 6);
         Check.due("likes(1, 0, 3)", x.likes(1, 0, 3), 1);
+        ConsentDoors y = Check.told("prison cells 3 hours 9 ring; cell deaf temper 0 left 0 right 0;"
+                + "soup 1 gives left 1 in 0;".repeat(7) + "soup 0 gives left 5 in 8;");
+        Check.due("seven soups: likes(1, 0, 0)", y.likes(1, 0, 0), 16);
+        Check.due("the eighth, not yet: likes(0, 0, 7)", y.likes(0, 0, 7), 0);
+        Check.due("the eighth: likes(0, 0, 8)", y.likes(0, 0, 8), 5);
         Check.due("a wall: likes(0, 0, 0)", x.likes(0, 0, 0), 0);
         Check.due("a wall: likes(2, 1, 0)", x.likes(2, 1, 0), 0);
         Check.due("likes(0, 1, 4)", x.likes(0, 1, 4), -2);
@@ -175,6 +180,8 @@ public final class MenTest {
         Check.due("asleep(-1)", x.asleep(-1), -2);
         ConsentDoors y = Check.told("prison cells 3 hours 6 row;");
         Check.due("nobody: sleep(0, 1)", y.sleep(0, 1), 0);
+        ConsentDoors z = Check.told("prison cells 3 hours 6 row; sleeps 1 from 2 to 4;");
+        Check.due("one alone: sleep(0, 1)", z.sleep(0, 1), 2);
     }
 
     private static void counts() {

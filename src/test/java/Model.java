@@ -1,6 +1,7 @@
 import java.util.ArrayList;
 import java.util.HashSet;
 import java.util.List;
+import java.util.Map;
 import java.util.Random;
 import java.util.Set;
 import java.util.TreeSet;
@@ -201,6 +202,28 @@ final class Model {
         for (Set<Integer> out : reach().get(hours - 1)) {
             most = Math.max(most, out.size());
         }
+        return most;
+    }
+
+    /** The most that can be out in the end, if these are out ahead of an HOUR. */
+    int mostFrom(Set<Integer> out, int hour, Map<String, Integer> known) {
+        if (hour == hours) {
+            return out.size();
+        }
+        String key = bits(out) + " " + hour;
+        Integer before = known.get(key);
+        if (before != null) {
+            return before;
+        }
+        int most = mostFrom(out, hour + 1, known);
+        for (int c = 0; c < cells; c++) {
+            if (opens(c, hour, out)) {
+                Set<Integer> more = new TreeSet<>(out);
+                more.add(c);
+                most = Math.max(most, mostFrom(more, hour + 1, known));
+            }
+        }
+        known.put(key, most);
         return most;
     }
 

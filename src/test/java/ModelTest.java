@@ -1,5 +1,7 @@
+import java.util.HashMap;
 import java.util.HashSet;
 import java.util.List;
+import java.util.Map;
 import java.util.Random;
 import java.util.Set;
 
@@ -12,7 +14,7 @@ public final class ModelTest {
         for (int i = 0; i < 1500; i++) {
             compare(Model.random(r, 2 + r.nextInt(4), 1 + r.nextInt(5)), r, true);
         }
-        for (int i = 0; i < 60; i++) {
+        for (int i = 0; i < 120; i++) {
             compare(Model.random(r, 6 + r.nextInt(4), 1 + r.nextInt(24)), r, false);
         }
         Check.finish();
@@ -33,6 +35,8 @@ public final class ModelTest {
         tale(m, told(m), r);
         if (small) {
             everyPlan(m, told(m));
+        } else {
+            bestAndAstray(m, told(m));
         }
     }
 
@@ -453,6 +457,30 @@ public final class ModelTest {
         }
         due(m, "astray", x.astray(), first);
         corridors(m, x, cheapest);
+    }
+
+    /** What needs no going through all PLANS. */
+    private static void bestAndAstray(Model m, ConsentDoors x) {
+        Map<String, Integer> known = new HashMap<>();
+        int most = m.mostFrom(NOBODY, 0, known);
+        List<Set<Integer>> course = m.course(m.plan);
+        Set<Integer> out = new HashSet<>();
+        int astray = -1;
+        for (int h = 0; h < m.hours; h++) {
+            int best = m.mostFrom(out, h + 1, known) == most ? -1 : m.cells;
+            for (int c = 0; c < m.cells && best == m.cells; c++) {
+                Set<Integer> more = new HashSet<>(out);
+                more.add(c);
+                if (m.opens(c, h, out) && m.mostFrom(more, h + 1, known) == most) {
+                    best = c;
+                    out = more;
+                }
+            }
+            due(m, "best", x.best(h), best);
+            boolean lost = m.mostFrom(course.get(h), h + 1, known) < most;
+            astray = astray < 0 && lost ? h : astray;
+        }
+        due(m, "astray", x.astray(), astray);
     }
 
     private static boolean next(int[] plan, int cells) {

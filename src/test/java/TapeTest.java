@@ -49,6 +49,27 @@ public final class TapeTest {
         Check.due("feed up to 1,600", x.feed(0x20202020, 0x20202020, 0x20202020, 0x20202020, 0x0a0a0a0a), 1600);
         Check.due("prison() of blanks", x.prison(), 0);
         Check.due("no PRISON then", x.count(0), 0);
+        Check.due("no HOURS then", x.count(1), 0);
+        cutShort();
+    }
+
+    // What is cut off is not read, even in the midst of a TOKEN.
+    private static void cutShort() {
+        ConsentDoors x = new ConsentDoors();
+        Check.feed(x, "prison cells 3 hours 4 row; plan 3 15; cell deaf");
+        x.end(36);
+        Check.feed(x, ";");
+        Check.due("cut in a number", x.prison(), 2);
+        Check.due("plan(3, 0)", x.plan(3, 0), 1);
+        Check.feed(x, "prison cells 3 hours 24 rows;");
+        x.end(22);
+        Check.due("cut behind a digit", x.prison(), -4);
+        Check.due("fault(0)", x.fault(0), 1);
+        Check.due("fault(1)", x.fault(1), 22);
+        Check.feed(x, "prison cells 3 hours 55");
+        x.end(22);
+        Check.due("5 of 55", x.prison(), -4);
+        Check.due("fault(0) is not of 55", x.fault(0), 1);
     }
 
     private static void lines() {
@@ -75,6 +96,9 @@ public final class TapeTest {
         faulty("prison cells 3 hours 4 row \n ", 1, 29);
         faulty("cell friendly temper 0 left 9 right 9;", 1, 0);
         faulty("  prisons", 1, 2);
+        faulty("brison", 1, 0);
+        faulty(ROW + "cellz", 1, 27);
+        faulty(ROW + "cell az", 1, 32);
         faulty(";", 1, 0);
         faulty("3", 1, 0);
         faulty("prison cells x", 1, 13);
