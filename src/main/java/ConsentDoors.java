@@ -955,6 +955,7 @@ public final class ConsentDoors {
         final int[] sleepHours = new int[MAX_CELLS];
         // A bond is a man and a SIDE: 2 * CELL + SIDE.
         final int[] told = new int[2 * MAX_CELLS];
+        // A soup's bond is of the man who likes more by it, not of the giver.
         // One soup more than can be told has room: one that is only supposed.
         final int[] soupBond = new int[MAX_TOLD + 1];
         final int[] soupPoints = new int[MAX_TOLD + 1];
@@ -1290,7 +1291,8 @@ public final class ConsentDoors {
             takeWord("gives");
             int side = isWord("left") ? LEFT : RIGHT;
             boolean named = isWord("left") || isWord("right");
-            if (fault == 0 && named && into.neighbour(cell, side) == NONE) {
+            int eater = into.neighbour(cell, side);
+            if (fault == 0 && named && eater == NONE) {
                 fail(OUT_OF_BOUNDS);
             }
             takeWord(side == LEFT ? "left" : "right");
@@ -1298,8 +1300,9 @@ public final class ConsentDoors {
             takeWord("in");
             int hour = takeNumber(0, into.hours - 1);
             takeSign();
+            // The points are the eater's: he likes the giver more, whom he has on his other SIDE.
             if (fault == 0) {
-                into.addSoup(2 * cell + side, points, hour);
+                into.addSoup(2 * eater + 1 - side, points, hour);
             }
         }
 

@@ -26,7 +26,7 @@ public final class LikingTest {
         Check.due("flatter(3, 0)", x.flatter(3, 0), -2);
         Check.due("flatter(0, 4)", x.flatter(0, 4), -2);
         Check.due("when(3)", x.when(3), -2);
-        ConsentDoors y = Check.told(COLD + "soup 2 gives left 2 in 1;");
+        ConsentDoors y = Check.told(COLD + "soup 1 gives right 2 in 1;");
         Check.due("flatter(1, 0)", y.flatter(1, 0), 9);
         Check.due("flatter(1, 1)", y.flatter(1, 1), 7);
         Check.due("when(1)", y.when(1), 1);
@@ -75,14 +75,14 @@ public final class LikingTest {
         ConsentDoors x = Check.told("prison cells 4 hours 2 row;"
                 + "cell friendly temper 0 left 0 right 0 loyal; cell friendly temper 1 left 0 right 1 loyal;"
                 + "cell friendly temper 9 left 9 right 1 loyal; cell friendly temper 0 left 0 right 0 loyal;"
-                + "soup 1 gives left 1 in 1; soup 2 gives right 5 in 1; sleeps 0 from 0 to 1; sleeps 3 from 0 to 0;");
+                + "soup 0 gives right 1 in 1; soup 3 gives left 5 in 1; sleeps 0 from 0 to 1; sleeps 3 from 0 to 0;");
         Check.due("door 3: corridor(3, 3)", x.corridor(3, 3), 3);
         Check.due("door 0: corridor(0, 0)", x.corridor(0, 0), 0);
         Check.due("asleep: corridor(0, 3)", x.corridor(0, 3), -1);
         ConsentDoors y = Check.told("prison cells 3 hours 2 ring;"
                 + "cell friendly temper 0 left 0 right 0 loyal; cell friendly temper 1 left 0 right 1 loyal;"
                 + "cell friendly temper 9 left 1 right 9 loyal;"
-                + "soup 1 gives left 1 in 1; soup 2 gives left 5 in 1;");
+                + "soup 0 gives right 1 in 1; soup 1 gives right 5 in 1;");
         // Door 0: 1 point of one man in HOUR 0, none in 1. Door 1: 8 points in HOUR 0, 3 in 1, of one man.
         Check.due("points: corridor(0, 1)", y.corridor(0, 1), 4);
         Check.due("men: friends(0, 1)", y.friends(0, 1), 1);

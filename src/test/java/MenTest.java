@@ -4,7 +4,7 @@ public final class MenTest {
             + "cell friendly temper 3 left 5 right 2;"
             + "cell pious temper 0 left 1 right 1;"
             + "cell moody 2 temper 4 left 4 right 0 loyal;"
-            + "sleeps 2 from 3 to 3; soup 0 gives right 1 in 2;";
+            + "sleeps 2 from 3 to 3; soup 1 gives left 1 in 2;";
 
     public static void main(String[] args) {
         cells();
@@ -54,17 +54,20 @@ public final class MenTest {
     }
 
     private static void liking() {
-        ConsentDoors x = Check.told(THREE + "soup 0 gives right 9 in 3; soup 2 gives left 2 in 0;");
+        ConsentDoors x = Check.told(THREE + "soup 1 gives left 9 in 3; soup 1 gives right 2 in 0;");
         Check.due("likes(0, 1, 1)", x.likes(0, 1, 1), 2);
         Check.due("likes(0, 1, 2)", x.likes(0, 1, 2), 3);
         Check.due("likes(0, 1, 3)", x.likes(0, 1, 3), 12);
         Check.due("likes(2, 0, 0)", x.likes(2, 0, 0), 6);
-        Check.due("likes(1, 0, 3)", x.likes(1, 0, 3), 1);
+        Check.due("who gives likes no more: likes(1, 0, 3)", x.likes(1, 0, 3), 1);
+        Check.due("who gives likes no more: likes(1, 1, 3)", x.likes(1, 1, 3), 1);
         ConsentDoors y = Check.told("prison cells 3 hours 9 ring; cell deaf temper 0 left 0 right 0;"
-                + "soup 1 gives left 1 in 0;".repeat(7) + "soup 0 gives left 5 in 8;");
+                + "soup 0 gives right 1 in 0;".repeat(7) + "soup 2 gives right 5 in 8;");
         Check.due("seven soups: likes(1, 0, 0)", y.likes(1, 0, 0), 16);
         Check.due("the eighth, not yet: likes(0, 0, 7)", y.likes(0, 0, 7), 0);
-        Check.due("the eighth: likes(0, 0, 8)", y.likes(0, 0, 8), 5);
+        Check.due("the eighth, round: likes(0, 0, 8)", y.likes(0, 0, 8), 5);
+        Check.due("not of the other SIDE: likes(0, 1, 8)", y.likes(0, 1, 8), 0);
+        Check.due("who gives round likes no more: likes(2, 1, 8)", y.likes(2, 1, 8), 9);
         Check.due("a wall: likes(0, 0, 0)", x.likes(0, 0, 0), 0);
         Check.due("a wall: likes(2, 1, 0)", x.likes(2, 1, 0), 0);
         Check.due("likes(0, 1, 4)", x.likes(0, 1, 4), -2);

@@ -18,7 +18,10 @@ final class Model {
     boolean[] loyal;
     boolean[] quarrel;
     boolean[][] asleep;
+    // As told: giver, SIDE of the eater, points, HOUR.
     final List<int[]> soups = new ArrayList<>();
+    // Only supposed (promises 41 and 42): who likes more, the SIDE that he likes, points, HOUR.
+    final List<int[]> supposed = new ArrayList<>();
     int[] plan;
     int lines;
     String text;
@@ -117,6 +120,10 @@ final class Model {
         }
         int sum = like[c][side];
         for (int[] s : soups) {
+            boolean eats = s[0] == beside(c, side) && s[1] != side;
+            sum += eats && s[3] <= hour ? s[2] : 0;
+        }
+        for (int[] s : supposed) {
             sum += s[0] == c && s[1] == side && s[3] <= hour ? s[2] : 0;
         }
         return sum;

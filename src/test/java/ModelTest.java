@@ -308,9 +308,9 @@ public final class ModelTest {
     }
 
     private static int withSoup(Model m, int c, int side, int n, int hour) {
-        m.soups.add(new int[] {c, side, n, hour});
+        m.supposed.add(new int[] {c, side, n, hour});
         int most = m.most();
-        m.soups.remove(m.soups.size() - 1);
+        m.supposed.clear();
         return most;
     }
 

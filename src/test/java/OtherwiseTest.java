@@ -91,10 +91,17 @@ public final class OtherwiseTest {
         Check.due("gift(0)", x.gift(0), -2);
         Check.due("gift(10)", x.gift(10), -2);
         ConsentDoors full = Check.told("prison cells 2 hours 3 row; cell friendly temper 9 left 0 right 0;"
-                + "cell deaf temper 0 left 0 right 0;" + "soup 0 gives right 1 in 0;".repeat(8));
+                + "cell deaf temper 0 left 0 right 0;" + "soup 1 gives left 1 in 0;".repeat(8));
         Check.due("eight soups and one: soup(0, 1, 1, 2)", full.soup(0, 1, 1, 2), 1);
         Check.due("eight soups and one: gift(1)", full.gift(1), 1);
         Check.due("SOUPS stay: count(4)", full.count(4), 8);
+        // Told, 0 eats what 1 gives; supposed, it is the named man himself who likes more.
+        ConsentDoors cold = Check.told("prison cells 2 hours 1 row; cell friendly temper 5 left 0 right 0;"
+                + "cell deaf temper 0 left 0 right 0; soup 1 gives left 2 in 0;");
+        Check.due("soup(0, 1, 2, 0)", cold.soup(0, 1, 2, 0), 0);
+        Check.due("soup(0, 1, 3, 0)", cold.soup(0, 1, 3, 0), 1);
+        Check.due("soup(1, 0, 9, 0)", cold.soup(1, 0, 9, 0), 0);
+        Check.due("gift(3)", cold.gift(3), 1);
     }
 
     private static void others() {
