@@ -73,106 +73,106 @@ public final class TapeTest {
     }
 
     private static void lines() {
-        sound(ROW, 1);
-        sound("", 0);
-        sound(" \n ", 0);
-        sound("prison cells 2 hours 1 row;", 1);
-        sound("prison cells 9 hours 24 ring;", 1);
-        sound("prison cells 3 hours 1 ring ;\n", 1);
-        sound("prison cells3hours4row;cell moody2temper0left0right0loyal;", 2);
-        sound("prison cells 003 hours 0004 row;", 1);
-        sound(ROW + "cell friendly temper 0 left 9 right 9; cell pious temper 9 left 0 right 0 loyal;"
+        Check.sound(ROW, 1);
+        Check.sound("", 0);
+        Check.sound(" \n ", 0);
+        Check.sound("prison cells 2 hours 1 row;", 1);
+        Check.sound("prison cells 9 hours 24 ring;", 1);
+        Check.sound("prison cells 3 hours 1 ring ;\n", 1);
+        Check.sound("prison cells3hours4row;cell moody2temper0left0right0loyal;", 2);
+        Check.sound("prison cells 003 hours 0004 row;", 1);
+        Check.sound(ROW + "cell friendly temper 0 left 9 right 9; cell pious temper 9 left 0 right 0 loyal;"
                 + " cell deaf temper 1 left 2 right 3;", 4);
-        sound(ROW + "cell moody 9 temper 1 left 2 right 3;", 2);
-        sound(ROW + "quarrel 0; quarrel 1;", 3);
-        sound("prison cells 3 hours 4 ring; quarrel 2;", 2);
-        sound(ROW + "sleeps 2 from 3 to 3; soup 0 gives right 1 in 0; soup 2 gives left 9 in 3;", 4);
-        sound(ROW + "plan 0 2; plan 0 1; plan 3 0;", 4);
+        Check.sound(ROW + "cell moody 9 temper 1 left 2 right 3;", 2);
+        Check.sound(ROW + "quarrel 0; quarrel 1;", 3);
+        Check.sound("prison cells 3 hours 4 ring; quarrel 2;", 2);
+        Check.sound(ROW + "sleeps 2 from 3 to 3; soup 0 gives right 1 in 0; soup 2 gives left 9 in 3;", 4);
+        Check.sound(ROW + "plan 0 2; plan 0 1; plan 3 0;", 4);
     }
 
     private static void words() {
-        faulty("prison", 1, 6);
-        faulty("prison cells 3 hours 4 row", 1, 26);
-        faulty("prison cells 3 hours 4 row \n ", 1, 29);
-        faulty("cell friendly temper 0 left 9 right 9;", 1, 0);
-        faulty("  prisons", 1, 2);
-        faulty("brison", 1, 0);
-        faulty(ROW + "cellz", 1, 27);
-        faulty(ROW + "cell az", 1, 32);
-        faulty(";", 1, 0);
-        faulty("3", 1, 0);
-        faulty("prison cells x", 1, 13);
-        faulty("prison cells ;", 1, 13);
-        faulty("prison cells 3 hours 4 round;", 1, 23);
-        faulty("prison cells 3 hours 4 7;", 1, 23);
-        faulty("prison cells 3 hours 4 ring ring;", 1, 28);
-        faulty("prisoncells 3 hours 4 row;", 1, 0);
-        faulty("Prison", 1, 0);
-        faulty("prison\tcells", 1, 6);
-        faulty("prison cells -3", 1, 13);
-        faulty("prison cells 3\r", 1, 14);
-        faulty("\u0000", 1, 0);
-        faulty("prison \u00e9", 1, 7);
-        faulty(ROW + ROW, 1, 27);
-        faulty(ROW + ";", 1, 27);
-        faulty(ROW + "friendly;", 1, 27);
-        faulty(ROW + "cell brave", 1, 32);
-        faulty(ROW + "cell moody temper", 1, 38);
-        faulty(ROW + "cell pious 2", 1, 38);
-        faulty(ROW + "cell deaf temper 1 right 1", 1, 46);
-        faulty(ROW + "cell deaf temper 1 left 1 right 1 loyal loyal", 1, 67);
-        faulty(ROW + "cell deaf temper 1 left 1 right 1", 1, 60);
-        faulty(ROW + "quarrel one", 1, 35);
-        faulty(ROW + "sleeps 0 to", 1, 36);
-        faulty(ROW + "sleeps 0 from 1 2", 1, 43);
-        faulty(ROW + "soup 0 takes", 1, 34);
-        faulty(ROW + "soup 0 gives both", 1, 40);
-        faulty(ROW + "soup 0 gives right 1 at", 1, 48);
-        faulty(ROW + "plan 0 1 2", 1, 36);
-        faulty(ROW + "plan 0;", 1, 33);
+        Check.faulty("prison", 1, 6);
+        Check.faulty("prison cells 3 hours 4 row", 1, 26);
+        Check.faulty("prison cells 3 hours 4 row \n ", 1, 29);
+        Check.faulty("cell friendly temper 0 left 9 right 9;", 1, 0);
+        Check.faulty("  prisons", 1, 2);
+        Check.faulty("brison", 1, 0);
+        Check.faulty(ROW + "cellz", 1, 27);
+        Check.faulty(ROW + "cell az", 1, 32);
+        Check.faulty(";", 1, 0);
+        Check.faulty("3", 1, 0);
+        Check.faulty("prison cells x", 1, 13);
+        Check.faulty("prison cells ;", 1, 13);
+        Check.faulty("prison cells 3 hours 4 round;", 1, 23);
+        Check.faulty("prison cells 3 hours 4 7;", 1, 23);
+        Check.faulty("prison cells 3 hours 4 ring ring;", 1, 28);
+        Check.faulty("prisoncells 3 hours 4 row;", 1, 0);
+        Check.faulty("Prison", 1, 0);
+        Check.faulty("prison\tcells", 1, 6);
+        Check.faulty("prison cells -3", 1, 13);
+        Check.faulty("prison cells 3\r", 1, 14);
+        Check.faulty("\u0000", 1, 0);
+        Check.faulty("prison \u00e9", 1, 7);
+        Check.faulty(ROW + ROW, 1, 27);
+        Check.faulty(ROW + ";", 1, 27);
+        Check.faulty(ROW + "friendly;", 1, 27);
+        Check.faulty(ROW + "cell brave", 1, 32);
+        Check.faulty(ROW + "cell moody temper", 1, 38);
+        Check.faulty(ROW + "cell pious 2", 1, 38);
+        Check.faulty(ROW + "cell deaf temper 1 right 1", 1, 46);
+        Check.faulty(ROW + "cell deaf temper 1 left 1 right 1 loyal loyal", 1, 67);
+        Check.faulty(ROW + "cell deaf temper 1 left 1 right 1", 1, 60);
+        Check.faulty(ROW + "quarrel one", 1, 35);
+        Check.faulty(ROW + "sleeps 0 to", 1, 36);
+        Check.faulty(ROW + "sleeps 0 from 1 2", 1, 43);
+        Check.faulty(ROW + "soup 0 takes", 1, 34);
+        Check.faulty(ROW + "soup 0 gives both", 1, 40);
+        Check.faulty(ROW + "soup 0 gives right 1 at", 1, 48);
+        Check.faulty(ROW + "plan 0 1 2", 1, 36);
+        Check.faulty(ROW + "plan 0;", 1, 33);
     }
 
     private static void bounds() {
-        faulty("prison cells 1 hours", 2, 13);
-        faulty("prison cells 10 hours", 2, 13);
-        faulty("prison cells 4294967298 hours 1 row;", 2, 13);
-        faulty("prison cells 99999999999999999999 hours 1 row;", 2, 13);
-        faulty("prison cells 2 hours 0 ring", 2, 21);
-        faulty("prison cells 2 hours 25", 2, 21);
-        faulty("prison cells 2 hours 24 ring", 2, 24);
-        faulty("prison cells 2 hours 24 ring?", 2, 24);
-        faulty(ROW + "cell moody 1", 2, 38);
-        faulty(ROW + "cell moody 10", 2, 38);
-        faulty(ROW + "cell deaf temper 10", 2, 44);
-        faulty(ROW + "cell deaf temper 1 left 10", 2, 51);
-        faulty(ROW + "cell deaf temper 1 left 1 right 10", 2, 59);
-        faulty(ROW + "quarrel 3", 2, 35);
-        faulty(ROW + "quarrel 2;", 2, 35);
-        faulty(ROW + "quarrel 1;quarrel 1;", 2, 45);
-        faulty(ROW + "sleeps 3 from", 2, 34);
-        faulty(ROW + "sleeps 0 from 4", 2, 41);
-        faulty(ROW + "sleeps 0 from 2 to 1", 2, 46);
-        faulty(ROW + "sleeps 0 from 2 to 4", 2, 46);
-        faulty(ROW + "soup 3 gives", 2, 32);
-        faulty(ROW + "soup 0 gives left 0", 2, 40);
-        faulty(ROW + "soup 2 gives right 0", 2, 40);
-        faulty(ROW + "soup 0 gives right 0", 2, 46);
-        faulty(ROW + "soup 0 gives right 10", 2, 46);
-        faulty(ROW + "soup 0 gives right 1 in 4", 2, 51);
-        faulty(ROW + "plan 4 0", 2, 32);
-        faulty(ROW + "plan 3 3", 2, 34);
+        Check.faulty("prison cells 1 hours", 2, 13);
+        Check.faulty("prison cells 10 hours", 2, 13);
+        Check.faulty("prison cells 4294967298 hours 1 row;", 2, 13);
+        Check.faulty("prison cells 99999999999999999999 hours 1 row;", 2, 13);
+        Check.faulty("prison cells 2 hours 0 ring", 2, 21);
+        Check.faulty("prison cells 2 hours 25", 2, 21);
+        Check.faulty("prison cells 2 hours 24 ring", 2, 24);
+        Check.faulty("prison cells 2 hours 24 ring?", 2, 24);
+        Check.faulty(ROW + "cell moody 1", 2, 38);
+        Check.faulty(ROW + "cell moody 10", 2, 38);
+        Check.faulty(ROW + "cell deaf temper 10", 2, 44);
+        Check.faulty(ROW + "cell deaf temper 1 left 10", 2, 51);
+        Check.faulty(ROW + "cell deaf temper 1 left 1 right 10", 2, 59);
+        Check.faulty(ROW + "quarrel 3", 2, 35);
+        Check.faulty(ROW + "quarrel 2;", 2, 35);
+        Check.faulty(ROW + "quarrel 1;quarrel 1;", 2, 45);
+        Check.faulty(ROW + "sleeps 3 from", 2, 34);
+        Check.faulty(ROW + "sleeps 0 from 4", 2, 41);
+        Check.faulty(ROW + "sleeps 0 from 2 to 1", 2, 46);
+        Check.faulty(ROW + "sleeps 0 from 2 to 4", 2, 46);
+        Check.faulty(ROW + "soup 3 gives", 2, 32);
+        Check.faulty(ROW + "soup 0 gives left 0", 2, 40);
+        Check.faulty(ROW + "soup 2 gives right 0", 2, 40);
+        Check.faulty(ROW + "soup 0 gives right 0", 2, 46);
+        Check.faulty(ROW + "soup 0 gives right 10", 2, 46);
+        Check.faulty(ROW + "soup 0 gives right 1 in 4", 2, 51);
+        Check.faulty(ROW + "plan 4 0", 2, 32);
+        Check.faulty(ROW + "plan 3 3", 2, 34);
     }
 
     private static void tooMany() {
         String cell = "cell deaf temper 1 left 1 right 1;";
-        faulty(ROW + cell + cell + cell + cell, 3, 27 + 3 * 34);
-        faulty(ROW + cell + cell + cell + "cell ?", 3, 27 + 3 * 34);
+        Check.faulty(ROW + cell + cell + cell + cell, 3, 27 + 3 * 34);
+        Check.faulty(ROW + cell + cell + cell + "cell ?", 3, 27 + 3 * 34);
         String sleeps = "sleeps 0 from 1 to 2;".repeat(8);
-        sound(ROW + sleeps, 9);
-        faulty(ROW + sleeps + " sleeps 9", 3, 28 + 8 * 21);
+        Check.sound(ROW + sleeps, 9);
+        Check.faulty(ROW + sleeps + " sleeps 9", 3, 28 + 8 * 21);
         String soups = "soup 0 gives right 1 in 2;".repeat(8);
-        sound(ROW + soups + sleeps, 17);
-        faulty(ROW + soups + "soup 9", 3, 27 + 8 * 26);
+        Check.sound(ROW + soups + sleeps, 17);
+        Check.faulty(ROW + soups + "soup 9", 3, 27 + 8 * 26);
     }
 
     private static void whatStays() {
@@ -198,21 +198,5 @@ public final class TapeTest {
         Check.due("no old quarrel", x.count(2), 0);
         Check.due("empty", x.prison(), 0);
         Check.due("there is none then", x.cell(0, 0), -2);
-    }
-
-    private static void sound(String text, int lines) {
-        ConsentDoors x = new ConsentDoors();
-        Check.due("prison() of " + text, Check.tell(x, text), lines);
-        Check.due("fault(0) of " + text, x.fault(0), 0);
-        Check.due("fault(1) of " + text, x.fault(1), -1);
-        Check.due("count(5) of " + text, x.count(5), lines);
-    }
-
-    private static void faulty(String text, int fault, int place) {
-        ConsentDoors x = new ConsentDoors();
-        Check.due("prison() of " + text, Check.tell(x, text), -4);
-        Check.due("fault(0) of " + text, x.fault(0), fault);
-        Check.due("fault(1) of " + text, x.fault(1), place);
-        Check.due("no PRISON of " + text, x.count(0), 0);
     }
 }
