@@ -155,6 +155,8 @@ final class EdgeAnyPlan {
         }
         Check.due("in none: latest(0)", shut.latest(0), -1);
         Check.due("the very last: latest(1)", all.latest(1), 23);
+        ConsentDoors first = Check.told("prison cells 2 hours 24 row; sleeps 1 from 1 to 23;");
+        Check.due("the very first: latest(0)", first.latest(0), 0);
         Edge.of(30, "-2: there is none such.");
         Check.within("latest(#)", 0, 2, x::latest);
         Check.withoutPrison("latest(0)", -2, none -> none.latest(0));

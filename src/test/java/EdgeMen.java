@@ -220,6 +220,7 @@ final class EdgeMen {
         ConsentDoors x = Check.told(Edge.ROW + "sleeps 1 from 0 to 0; sleeps 0 from 2 to 2; plan 1 1; plan 0 0;");
         Check.due("the first of several: busy(0)", x.busy(0), 1);
         Check.due("busy(1)", x.busy(1), 3);
+        Check.due("the very first of several", Check.told(Edge.ROW).busy(0), 0);
         ConsentDoors last = Check.told("prison cells 9 hours 24 ring; sleeps 8 from 0 to 22;");
         Check.due("the last: busy(0)", last.busy(0), 23);
         Check.due("all: busy(1)", last.busy(1), 9);
@@ -241,6 +242,7 @@ final class EdgeMen {
             Check.due("sleep(" + cell + ", 0)", x.sleep(cell, 0), hours[cell]);
             Check.due("the first of several: sleep(" + cell + ", 1)", x.sleep(cell, 1), 2);
         }
+        Check.due("the very first of several", Check.told(Edge.ROW + "sleeps 1 from 0 to 1; sleeps 2 from 3 to 3;").sleep(0, 1), 0);
         ConsentDoors last = Check.told("prison cells 3 hours 24 row; sleeps 2 from 23 to 23;");
         Check.due("the last: sleep(0, 1)", last.sleep(0, 1), 23);
         Check.due("all", Check.told("prison cells 3 hours 24 row; sleeps 1 from 0 to 23;").sleep(1, 0), 24);
@@ -274,6 +276,11 @@ final class EdgeMen {
         Check.due("ring of 3", Check.told("prison cells 3 hours 1 ring;").pairs(0), 3);
         Check.due("ring of 9", Check.told("prison cells 9 hours 24 ring;").pairs(23), 9);
         Check.due("nobody being out", Check.told(Edge.ROW + "plan 0 0;").pairs(3), 2);
+        ConsentDoors five = Check.told("prison cells 5 hours 4 row; sleeps 0 from 1 to 1; sleeps 4 from 2 to 2; sleeps 2 from 3 to 3;");
+        int[] pairs = {4, 3, 3, 2};
+        for (int hour = 0; hour < 4; hour++) {
+            Check.due("sleepers: pairs(" + hour + ")", five.pairs(hour), pairs[hour]);
+        }
         Check.due("one alone turns", Check.told(Edge.ROW + "cell pious temper 0 left 0 right 0;").pairs(0), 1);
         Check.due("both turn", Check.told(Edge.ROW + "cell pious temper 0 left 0 right 0;").pairs(1), 2);
         Check.due("round, one alone", Check.told(Edge.RING + "cell pious temper 0 left 0 right 0;").pairs(1), 2);

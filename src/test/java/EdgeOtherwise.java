@@ -145,6 +145,14 @@ final class EdgeOtherwise {
         ConsentDoors round = Check.told("prison cells 9 hours 24 ring;" + Edge.DEAF.repeat(7)
                 + "cell friendly temper 0 left 0 right 0; cell friendly temper 1 left 1 right 0;");
         Check.due("none of the deaf: gift(1)", round.gift(1), -1);
+        ConsentDoors first = Check.told("prison cells 3 hours 24 ring;" + "cell friendly temper 1 left 0 right 1;"
+                + Edge.DEAF + "cell friendly temper 0 left 0 right 0;");
+        Check.due("no door for 0 on his left: gift(9)", first.gift(9), -1);
+        first.temper(2, 9);
+        Check.due("the last on his left: gift(9)", first.gift(9), 20);
+        ConsentDoors zero = Check.told("prison cells 3 hours 24 ring;" + "cell friendly temper 1 left 0 right 1;"
+                + "cell friendly temper 0 left 0 right 0;" + Edge.DEAF);
+        Check.due("0, round to the left: gift(1)", zero.gift(1), 0);
         ConsentDoors eighth = Check.told("prison cells 9 hours 24 row;" + Edge.DEAF.repeat(7)
                 + "cell friendly temper 1 left 1 right 0; cell deaf temper 0 left 0 right 0;");
         Check.due("71: gift(1)", eighth.gift(1), 71);

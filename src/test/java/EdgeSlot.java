@@ -188,10 +188,10 @@ final class EdgeSlot {
         }
     }
 
-    /** Three of 9 numbers are moved within a row; each is then asked for as the HOUR of a nod, which it alone bears. */
+    /** Three of 9 numbers are moved within a row. */
     private static void moved(int width, int from, int to) {
-        long[] due = {9, 8, 7, 6, 5, 4, 3, 2, 1};
-        ConsentDoors x = Check.told("prison cells 2 hours 24 row;");
+        long[] due = {8, 7, 6, 5, 4, 3, 2, 1, 0};
+        ConsentDoors x = Check.told("prison cells 9 hours 1 ring;");
         x.row(0, width, 9);
         for (int i = 0; i < 9; i++) {
             x.write(0, i, due[i]);
@@ -199,21 +199,17 @@ final class EdgeSlot {
         System.arraycopy(due.clone(), from, due, to, 3);
         Check.due("paste(0, " + from + ", 0, " + to + ", 3)", x.paste(0, from, 0, to, 3), 0);
         for (int i = 0; i < 9; i++) {
-            Check.due("WIDTH " + width + ", number " + i + " of 3 moved from " + from + " to " + to, number(x, width, i), due[i]);
+            int cell = (int) due[i];
+            Check.due("WIDTH " + width + ", number " + i + " of 3 moved from " + from + " to " + to, besidesOf(x, width, i),
+                    1 << (cell + 8) % 9 | 1 << (cell + 1) % 9);
         }
     }
 
-    /** Number i of SLOT 0, as the HOUR of a nod of the one man who sleeps in it alone. */
-    private static int number(ConsentDoors x, int width, int i) {
+    /** Number i of SLOT 0 as the CELL whose door opened, seen by its two neighbours, who surely did not refuse. */
+    private static int besidesOf(ConsentDoors x, int width, int i) {
         x.row(1, width, 3);
         x.write(1, 2, 1);
-        x.paste(0, i, 1, 0, 1);
-        for (int hour = 0; hour < 24; hour++) {
-            Check.tell(x, "prison cells 2 hours 24 row; sleeps 0 from " + hour + " to " + hour + ";");
-            if (x.forged(1) == 1) {
-                return hour;
-            }
-        }
-        return -1;
+        x.paste(0, i, 1, 1, 1);
+        return x.sure(1, 1);
     }
 }

@@ -120,6 +120,10 @@ final class EdgeTale {
         ConsentDoors nobody = told("prison cells 3 hours 4 row;" + Edge.LOYAL.repeat(3), 0, 0, 1, 1, 1, 1);
         Check.due("nobody: sure(0, 0)", nobody.sure(0, 0), 0);
         Check.due("nobody: sure(0, 1)", nobody.sure(0, 1), 7);
+        Check.write(nobody, 0, 0, 0, 0);
+        Check.due("another row, another answer: sure(0, 1)", nobody.sure(0, 1), 0);
+        Check.write(nobody, 0, 0, 0, 1);
+        Check.due("another row, another answer: sure(0, 1)", nobody.sure(0, 1), 2);
         Edge.of(50, "NONE, -2, -6 likewise, no such what.");
         ConsentDoors none = told(FOUR, 0, 1, 1, 1, 1, 1);
         Check.due("none: sure(0, 0)", none.sure(0, 0), -1);

@@ -128,6 +128,7 @@ final class EdgeTape {
         Check.due("none then: count(5)", x.count(5), 0);
         Check.due("none then: vain()", x.vain(), -2);
         Check.due("none then: cell(0, 0)", x.cell(0, 0), -2);
+        nothingOld();
         Edge.of(4, "-4: a FAULT (the TAPE is empty, all else stays).");
         ConsentDoors y = Check.told(Edge.ROW + "cell pious temper 1 left 2 right 3 loyal; quarrel 0; sleeps 1 from 1 to 2;"
                 + "soup 1 gives left 4 in 1; plan 3 2;");
@@ -157,6 +158,68 @@ final class EdgeTape {
         Check.due("prison() of ?", Check.tell(none, "?"), -4);
         Check.due("none stays: count(5)", none.count(5), 0);
         Check.due("none stays: vain()", none.vain(), -2);
+    }
+
+    // What was told before, sound or with a FAULT, leaves nothing behind.
+    private static void nothingOld() {
+        String full = "prison cells 3 hours 4 ring; cell moody 2 temper 5 left 6 right 7 loyal; cell pious temper 8 left 7 right 6 loyal;"
+                + "cell deaf temper 1 left 2 right 3 loyal; quarrel 0; quarrel 2; sleeps 0 from 0 to 1; sleeps 1 from 2 to 3;"
+                + "sleeps 2 from 3 to 3; soup 0 gives left 1 in 0; soup 1 gives left 2 in 1; soup 2 gives left 3 in 2;"
+                + "plan 0 0; plan 1 2; plan 2 1; plan 3 0;";
+        for (String before : new String[] {full, full + "?", full + "cell deaf temper 0 left 0 right 0;"}) {
+            ConsentDoors x = new ConsentDoors();
+            Check.tell(x, before);
+            x.best(0);
+            Check.due("another: prison()", Check.tell(x, Edge.ROW), 1);
+            likeNew(x, Check.told(Edge.ROW));
+            Check.tell(x, before);
+            Check.due("none: prison()", x.prison(), 0);
+            for (int what = 0; what <= 9; what++) {
+                Check.due("none: count(" + what + ")", x.count(what), 0);
+            }
+            Check.due("another behind none: prison()", Check.tell(x, Edge.ROW), 1);
+            likeNew(x, Check.told(Edge.ROW));
+        }
+        java.util.Random r = new java.util.Random(4);
+        for (int i = 0; i < 60; i++) {
+            ConsentDoors x = new ConsentDoors();
+            Check.tell(x, Model.random(r, 2 + r.nextInt(8), 1 + r.nextInt(24)).text + (i % 2 == 0 ? "" : "quarrel"));
+            x.astray();
+            String text = Model.random(r, 2 + r.nextInt(8), 1 + r.nextInt(24)).text;
+            Check.tell(x, text);
+            likeNew(x, Check.told(text));
+        }
+    }
+
+    private static void likeNew(ConsentDoors x, ConsentDoors fresh) {
+        for (int what = 0; what <= 9; what++) {
+            Check.due("count(" + what + ")", x.count(what), fresh.count(what));
+        }
+        for (int cell = 0; cell < fresh.count(0); cell++) {
+            for (int what = 0; what <= 6; what++) {
+                Check.due("cell(" + cell + ", " + what + ")", x.cell(cell, what), fresh.cell(cell, what));
+            }
+            Check.due("sleep(" + cell + ", 0)", x.sleep(cell, 0), fresh.sleep(cell, 0));
+            Check.due("hours(" + cell + ", 0)", x.hours(cell, 0), fresh.hours(cell, 0));
+            Check.due("hours(" + cell + ", 1)", x.hours(cell, 1), fresh.hours(cell, 1));
+            Check.due("free(" + cell + ")", x.free(cell), fresh.free(cell));
+            Check.due("turned(" + cell + ")", x.turned(cell), fresh.turned(cell));
+            Check.due("when(" + cell + ")", x.when(cell), fresh.when(cell));
+            int last = fresh.count(1) - 1;
+            Check.due("likes(" + cell + ", 0, " + last + ")", x.likes(cell, 0, last), fresh.likes(cell, 0, last));
+            Check.due("likes(" + cell + ", 1, " + last + ")", x.likes(cell, 1, last), fresh.likes(cell, 1, last));
+        }
+        Check.due("vain()", x.vain(), fresh.vain());
+        Check.due("astray()", x.astray(), fresh.astray());
+        Check.due("idle()", x.idle(), fresh.idle());
+        Check.due("locked()", x.locked(), fresh.locked());
+        Check.due("courted()", x.courted(), fresh.courted());
+        for (int hour = 0; hour < fresh.count(1); hour++) {
+            Check.due("most(" + hour + ")", x.most(hour), fresh.most(hour));
+            Check.due("best(" + hour + ")", x.best(hour), fresh.best(hour));
+            Check.due("out(" + hour + ")", x.out(hour), fresh.out(hour));
+            Check.due("plan(" + hour + ", -1)", x.plan(hour, -1), fresh.plan(hour, -1));
+        }
     }
 
     private static void faults() {

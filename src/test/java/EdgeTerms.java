@@ -44,6 +44,11 @@ final class EdgeTerms {
                 String rest = last ? "" : line.substring(sofar.length() - ahead.length() + token.length());
                 Check.faulty(sofar + "zz" + rest, 1, sofar.length());
                 Check.faulty(sofar + "?" + rest, 1, sofar.length());
+                if (token.charAt(0) >= 'a') {
+                    Check.faulty(sofar + "x" + token.substring(1) + rest, 1, sofar.length());
+                    Check.faulty(sofar + token.substring(0, token.length() - 1) + "x" + rest, 1, sofar.length());
+                    Check.faulty(sofar + token + "x" + rest, 1, sofar.length());
+                }
                 if (!last && !token.equals("loyal")) {
                     Check.faulty(sofar + ";" + rest, 1, sofar.length());
                 }
@@ -235,6 +240,10 @@ final class EdgeTerms {
         Check.due("count(4)", x.count(4), 8);
         Check.due("cell(0, 6)", x.cell(0, 6), 8);
         Check.due("likes(1, 0, 0)", x.likes(1, 0, 0), 17);
+        ConsentDoors eighth = Check.told(Edge.ROW + soup.repeat(7) + "soup 1 gives left 9 in 3;" + sleeps.repeat(7) + "sleeps 2 from 3 to 3;");
+        Check.due("the eighth soup, not yet", eighth.likes(0, 1, 2), 9);
+        Check.due("the eighth soup", eighth.likes(0, 1, 3), 18);
+        Check.due("the eighth sleeps", eighth.sleep(2, 0), 1);
         Check.faulty(Edge.ROW + sleeps.repeat(9), 3, 27 + 8 * 21);
         Check.faulty(Edge.ROW + soup.repeat(9), 3, 27 + 8 * 26);
     }
@@ -293,6 +302,9 @@ final class EdgeTerms {
         Check.faulty("prison hours", 1, 7);
         Check.faulty(Edge.ROW + "cell 3", 1, 32);
         Check.faulty(Edge.ROW + "plan 1 deaf", 1, 34);
+        Check.faulty(Edge.ROW + "quarrel 0; quarrel ;", 1, 46);
+        Check.faulty(Edge.ROW + "quarrel 0; quarrel one;", 1, 46);
+        Check.faulty(Edge.RING + "quarrel 0; quarrel", 1, 46);
         Edge.of("Terms", "2 a number out of its bounds, not as said (cells of a ring that are two: at the word ring; a soup to a wall:"
                 + " at the word left, right).");
         Check.faulty("prison cells 2 hours 4 ring", 2, 23);

@@ -28,6 +28,8 @@ public final class ModelTest {
 
     private static void compare(Model m, Random r, boolean small) {
         men(m, told(m));
+        hours(m, told(m));
+        drawn(m, told(m), r);
         doors(m, told(m));
         course(m, told(m));
         anyPlan(m, told(m));
@@ -62,6 +64,92 @@ public final class ModelTest {
                 due(m, "hours", x.hours(c, side), bits);
                 due(m, "beside", x.beside(c, side), m.beside(c, side));
             }
+        }
+    }
+
+    private static void hours(Model m, ConsentDoors x) {
+        int busiest = 0;
+        int sleepiest = 0;
+        int[] open = new int[m.hours];
+        int[] asleep = new int[m.hours];
+        for (int h = 0; h < m.hours; h++) {
+            int pairs = 0;
+            for (int c = 0; c < m.cells; c++) {
+                int next = m.beside(c, 1);
+                boolean pair = next >= 0 && m.reason(c, 1, h, NOBODY) == 0 && m.reason(next, 0, h, NOBODY) == 0;
+                pairs += pair ? 1 : 0;
+                open[h] += m.opens(c, h, NOBODY) ? 1 : 0;
+                asleep[h] += m.asleep[c][h] ? 1 : 0;
+            }
+            due(m, "pairs", x.pairs(h), pairs);
+            due(m, "asleep", x.asleep(h), asleep[h]);
+            busiest = open[h] > open[busiest] ? h : busiest;
+            sleepiest = asleep[h] > asleep[sleepiest] ? h : sleepiest;
+        }
+        due(m, "busy(0)", x.busy(0), busiest);
+        due(m, "busy(1)", x.busy(1), open[busiest]);
+        due(m, "sleep(.., 1)", x.sleep(0, 1), sleepiest);
+        for (int c = 0; c < m.cells; c++) {
+            int slept = 0;
+            for (int h = 0; h < m.hours; h++) {
+                slept += m.asleep[c][h] ? 1 : 0;
+            }
+            due(m, "sleep(.., 0)", x.sleep(c, 0), slept);
+            longest(m, x, c);
+            for (int d = 0; d < m.cells; d++) {
+                due(m, "common", x.common(c, d), c == d ? -2 : Integer.bitCount(could(m, c) & could(m, d)));
+            }
+        }
+    }
+
+    private static void longest(Model m, ConsentDoors x, int c) {
+        int most = 0;
+        int first = -1;
+        for (int from = 0; from < m.hours; from++) {
+            int n = 0;
+            while (from + n < m.hours && m.opens(c, from + n, NOBODY)) {
+                n++;
+            }
+            first = n > most ? from : first;
+            most = Math.max(most, n);
+        }
+        due(m, "longest(.., 0)", x.longest(c, 0), most);
+        due(m, "longest(.., 1)", x.longest(c, 1), first);
+    }
+
+    private static void drawn(Model m, ConsentDoors x, Random r) {
+        int seed = r.nextInt(2000000001);
+        int n = 1 + r.nextInt(4);
+        int odds = r.nextInt(101);
+        int[] free = new int[m.cells];
+        boolean[][] told = m.asleep;
+        for (int i = 0; i < n; i++) {
+            m.asleep = new boolean[m.cells][m.hours];
+            int drowsy = 0;
+            long state = seed + i;
+            for (int h = 0; h < m.hours; h++) {
+                boolean some = false;
+                for (int c = 0; c < m.cells; c++) {
+                    state = (1103515245L * state + 12345L) % 2147483648L;
+                    boolean by = state / 65536L % 100L < odds;
+                    m.asleep[c][h] = by || told[c][h];
+                    some |= by && !told[c][h];
+                }
+                drowsy += some ? 1 : 0;
+            }
+            int out = Model.bits(m.course(m.plan).get(m.hours - 1));
+            for (int c = 0; c < m.cells; c++) {
+                free[c] += out >> c & 1;
+            }
+            if (i == 0) {
+                due(m, "drawn(.., 0)", x.drawn(seed, odds, 0), out);
+                due(m, "drawn(.., 1)", x.drawn(seed, odds, 1), m.most());
+                due(m, "drawn(.., 2)", x.drawn(seed, odds, 2), drowsy);
+            }
+        }
+        m.asleep = told;
+        for (int c = 0; c < m.cells; c++) {
+            due(m, "chance", x.chance(seed, n, odds, c), free[c]);
         }
     }
 
