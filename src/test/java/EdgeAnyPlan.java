@@ -92,6 +92,9 @@ final class EdgeAnyPlan {
         }
         Check.due("nobody is a set too", Check.told("prison cells 2 hours 1 row; quarrel 0;").sets(0), 1);
         Check.due("all of nine", Check.told("prison cells 9 hours 9 ring;" + Edge.LOYAL.repeat(9)).sets(8), 512);
+        // Of a ring of nine and of a row of nine the sets without two neighbours.
+        Check.due("no two neighbours, ring", Check.told("prison cells 9 hours 9 ring;").sets(8), 76);
+        Check.due("no two neighbours, row", Check.told("prison cells 9 hours 9 row;").sets(8), 89);
         Check.due("all but all of nine", Check.told("prison cells 9 hours 8 ring;" + Edge.LOYAL.repeat(9)).sets(7), 511);
         Edge.of(26, "-2: there is no such HOUR.");
         Check.within("sets(#)", 0, 4, x::sets);
@@ -182,6 +185,13 @@ final class EdgeAnyPlan {
         Check.due("one of two: astray()", Check.told(FIVE + "plan 1 0;").astray(), 2);
         Check.due("two of two: astray()", Check.told(FIVE + "plan 1 0; plan 2 2;").astray(), -1);
         Check.due("two of two, the other way: astray()", Check.told(FIVE + "plan 2 0; plan 1 2;").astray(), -1);
+        for (int cell = 0; cell < 9; cell++) {
+            // Of a row of nine 0, 2, 4, 6, 8 alone make five.
+            String plan = "plan 0 " + cell + "; plan 1 " + (cell < 2 ? 2 : 0) + "; plan 2 4; plan 3 6; plan 4 8; plan 5 2;";
+            int due = cell % 2 == 1 ? 0 : -1;
+            Check.due("row of nine, " + cell + " first: astray()", Check.told("prison cells 9 hours 9 row;" + plan).astray(), due);
+        }
+        Check.due("one of nine: astray()", Check.told("prison cells 9 hours 1 ring;").astray(), 0);
         Check.due("nobody can: astray()", Check.told("prison cells 2 hours 24 row; quarrel 0;").astray(), -1);
         Check.due("the last HOUR: astray()", Check.told("prison cells 2 hours 24 row;").astray(), 23);
         Check.due("in the last HOUR: astray()", Check.told("prison cells 2 hours 24 row; plan 23 1;").astray(), -1);

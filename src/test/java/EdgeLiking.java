@@ -54,6 +54,7 @@ final class EdgeLiking {
         Check.due("fewer by soup in the last", Check.told("prison cells 2 hours 24 row; cell friendly temper 9 left 0 right 7;"
                 + "soup 1 gives left 1 in 23;").when(1), 23);
         Check.due("in none", Check.told("prison cells 2 hours 24 row; quarrel 0;").when(0), -1);
+        Check.due("in none, by sleep", Check.told("prison cells 2 hours 24 row; sleeps 1 from 0 to 23;").when(0), -1);
         Edge.of(34, "-2: there is none such.");
         Check.within("when(#)", 0, 2, x::when);
         Check.withoutPrison("when(0)", -2, none -> none.when(0));

@@ -277,6 +277,10 @@ final class EdgeMen {
         Check.due("ring of 9", Check.told("prison cells 9 hours 24 ring;").pairs(23), 9);
         Check.due("nobody being out", Check.told(Edge.ROW + "plan 0 0;").pairs(3), 2);
         ConsentDoors five = Check.told("prison cells 5 hours 4 row; sleeps 0 from 1 to 1; sleeps 4 from 2 to 2; sleeps 2 from 3 to 3;");
+        Check.due("one SIDE alone", Check.told("prison cells 4 hours 1 row; cell friendly temper 0 left 0 right 0;"
+                + "cell friendly temper 5 left 5 right 4; cell friendly temper 5 left 5 right 5;").pairs(0), 2);
+        Check.due("one SIDE alone, of three", Check.told("prison cells 3 hours 1 row; cell friendly temper 0 left 0 right 0;"
+                + "cell friendly temper 5 left 5 right 4;").pairs(0), 1);
         int[] pairs = {4, 3, 3, 2};
         for (int hour = 0; hour < 4; hour++) {
             Check.due("sleepers: pairs(" + hour + ")", five.pairs(hour), pairs[hour]);

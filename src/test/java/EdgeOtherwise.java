@@ -170,9 +170,13 @@ final class EdgeOtherwise {
         Check.due("likes", Check.told("prison cells 2 hours 24 row; cell friendly temper 9 left 9 right 8;"
                 + "cell friendly temper 9 left 0 right 9;").other(1), 1);
         Check.due("QUARRELS", Check.told(SHUT).other(2), 1);
-        Check.due("pious", Check.told("prison cells 2 hours 1 row; cell pious temper 0 left 0 right 0;" + Edge.DEAF).other(3), 1);
-        Check.due("moody", Check.told("prison cells 2 hours 2 row; cell moody 2 temper 0 left 0 right 0;" + Edge.DEAF
-                + "sleeps 0 from 0 to 0;").other(3), 1);
+        Check.due("pious", Check.told("prison cells 2 hours 1 row; cell pious temper 0 left 0 right 0; sleeps 1 from 0 to 0;").other(3), 1);
+        Check.due("moody", Check.told("prison cells 2 hours 2 row; cell moody 2 temper 0 left 0 right 0; sleeps 0 from 0 to 0;"
+                + "sleeps 1 from 0 to 1;").other(3), 1);
+        Check.due("deaf", Check.told("prison cells 2 hours 1 row;" + Edge.DEAF + "sleeps 1 from 0 to 0;").other(3), 1);
+        Check.due("loyal as they were", Check.told("prison cells 2 hours 2 row; cell deaf temper 0 left 0 right 0 loyal;").other(3), 1);
+        Check.due("tempers as they were", Check.told("prison cells 2 hours 2 row; cell deaf temper 1 left 0 right 0 loyal;" + Edge.DEAF)
+                .other(3), 1);
         Check.due("fewer by a ring", Check.told(Edge.ROW).other(4), -1);
         Check.due("more by a row", Check.told(Edge.RING).other(4), 1);
         ConsentDoors same = Check.told(Edge.ROW);

@@ -172,6 +172,7 @@ final class EdgePlan {
     private static void vains() {
         Edge.of(22, "How many doors are tried in vain.");
         Check.due("vain()", Check.told(DAY).vain(), 3);
+        Check.due("of 24 HOURS, the last: vain()", Check.told("prison cells 2 hours 24 row; plan 22 0; plan 23 0;").vain(), 1);
         Check.due("none is tried: vain()", Check.told(Edge.ROW).vain(), 0);
         Check.due("none in vain: vain()", Check.told(Edge.ROW + "plan 0 0; plan 3 2;").vain(), 0);
         Check.due("all in vain: vain()", Check.told(Edge.ROW + "plan 0 0; plan 1 0; plan 2 1; plan 3 1; quarrel 0;").vain(), 4);

@@ -180,6 +180,18 @@ final class EdgeTape {
             Check.due("another behind none: prison()", Check.tell(x, Edge.ROW), 1);
             likeNew(x, Check.told(Edge.ROW));
         }
+        String long24 = "prison cells 9 hours 24 ring;" + Edge.LOYAL.repeat(9);
+        for (int hour = 0; hour < 9; hour++) {
+            long24 += "plan " + hour + " " + hour + ";";
+        }
+        for (int hours = 1; hours < 9; hours++) {
+            String text = "prison cells 9 hours " + hours + " ring;";
+            ConsentDoors x = Check.told(long24);
+            Check.tell(x, text);
+            likeNew(x, Check.told(text));
+            Check.due("of " + hours + " HOURS: together(511)", x.together(511), -1);
+            Check.due("of " + hours + " HOURS: soonest(9)", x.soonest(9), -1);
+        }
         java.util.Random r = new java.util.Random(4);
         for (int i = 0; i < 60; i++) {
             ConsentDoors x = new ConsentDoors();
