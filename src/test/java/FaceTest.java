@@ -36,6 +36,7 @@ public final class FaceTest {
             Check.holds("no private method is called " + bare, !hidden.contains(bare));
         }
         fields(face0);
+        inside(face0, want);
         Check.finish();
     }
 
@@ -56,6 +57,20 @@ public final class FaceTest {
         }
         Check.holds("some twelve classes", face.getDeclaredClasses().length <= 11);
         Check.due("NONE", ConsentDoors.NONE, -1);
+    }
+
+    // Rules 1 and 11, for the classes inside too.
+    private static void inside(Class<?> face, TreeSet<String> want) {
+        TreeSet<String> names = new TreeSet<>();
+        want.forEach(name -> names.add(name.substring(0, name.indexOf('('))));
+        for (Class<?> inside : face.getDeclaredClasses()) {
+            for (Method m : inside.getDeclaredMethods()) {
+                boolean named = Modifier.isPrivate(m.getModifiers()) && names.contains(m.getName());
+                Check.holds("no private method bears the name of a public one: " + m, !named);
+            }
+            long fields = java.util.Arrays.stream(inside.getDeclaredFields()).filter(f -> !Modifier.isStatic(f.getModifiers())).count();
+            Check.holds("some twenty fields: " + inside + " has " + fields, fields <= 20);
+        }
     }
 
     private static String types(String line) {
